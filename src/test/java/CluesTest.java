@@ -99,5 +99,12 @@ public final class CluesTest {
         CHECK.due("nobody", x.ask(0), -1);
         CHECK.due("nobody", x.ask(1), -1);
         CHECK.due("no refusal", x.count(10), 0);
+        GraceTree y = new GraceTree();
+        y.enter(0);
+        y.seen(0, 1);
+        CHECK.due("the first reader alone", y.ask(1), 1);
+        y.forget();
+        y.seen(0, 0);
+        CHECK.due("all but the first", y.ask(1), 7);
     }
 }

@@ -123,6 +123,62 @@ public final class ImagesTest {
         x.back(1);
         CHECK.due("kept anew", x.count(0), 1);
         CHECK.due("count(1)", x.count(1), 1);
+        cellsUsedAgain();
+        cluesOfImages();
+    }
+
+    private static void cellsUsedAgain() {
+        GraceTree x = new GraceTree();
+        x.put(1, 10);
+        x.put(3, 30);
+        x.put(5, 50);
+        x.drop(3);
+        x.enter(7);
+        x.image(0);
+        x.leave(7);
+        x.drop(1);
+        x.drop(5);
+        x.begin();
+        x.hurry();
+        x.put(9, 90);
+        x.put(8, 80);
+        x.put(7, 70);
+        x.drop(7);
+        x.enter(7);
+        x.step(7);
+        x.back(0);
+        int[] keys = {1, 3, 5};
+        int[] next = {2, 2, -1};
+        for (int c = 0; c < 3; c++) {
+            CHECK.due("key", x.cell(c, 1), keys[c]);
+            CHECK.due("value", x.cell(c, 2), 10 * keys[c]);
+            CHECK.due("next", x.cell(c, 3), next[c]);
+        }
+        CHECK.due("waiting", x.old(0, 0), 1);
+        CHECK.due("the head", x.list(0), 0);
+        CHECK.due("the reader's cell", x.of(7, 1), 0);
+    }
+
+    private static void cluesOfImages() {
+        GraceTree x = new GraceTree();
+        x.enter(3);
+        x.enter(4);
+        x.park(4);
+        x.seen(0, 1);
+        x.seen(1, 1);
+        x.image(0);
+        x.forget();
+        x.seen(2, 50);
+        x.seen(2, 60);
+        x.back(0);
+        CHECK.due("seen", x.count(6), 2);
+        CHECK.due("canBe()", x.canBe(), 16);
+        Feeder.law(x, "costs 10");
+        x.image(1);
+        x.back(0);
+        Feeder.law(x, "costs 20");
+        x.back(1);
+        CHECK.due("the first law of an image", x.compare(0, 1, 0), 10);
     }
 
     private static void lawsOfImages() {
@@ -197,6 +253,8 @@ public final class ImagesTest {
         CHECK.due("days()", x.status(), 0);
         x.force(0);
         CHECK.due("force()", x.status(), -2);
+        x.force(-1);
+        CHECK.due("force() of none", x.status(), 0);
         x.terms(0, 0);
         CHECK.due("terms()", x.status(), 0);
         x.undo();

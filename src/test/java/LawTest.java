@@ -90,6 +90,14 @@ public final class LawTest {
         faultOf("bars if key = 1 if key = 2", 16);
         faultOf("bars times 2", 5);
         faultOf("Bars", 0);
+        faultOf("zars", 0);
+        faultOf("barsz", 0);
+        faultOf("bars zif key = 1", 5);
+        faultOf("bars if (", 9);
+        faultOf("bars if (1 =", 12);
+        faultOf("bars if (1 = 1 or", 17);
+        faultOf("costs [", 7);
+        faultOf("costs [1 +", 10);
         faultOf("bars\tif key = 1", 4);
         faultOf("bars if key = 1" + (char) 233, 15);
         faultOf("bars if key = 1" + (char) 0, 15);
@@ -199,14 +207,18 @@ public final class LawTest {
             "costs 100 % 30 * 2", "costs 50 + [0 - 7] / 2", "costs 50 + [0 - 7] % 2", "costs 7 if not 1 = 2",
             "costs 7 if not not 1 = 2", "costs 7 if 1 = 2 and 1 = 1 or 1 = 1", "costs 7 if 1 = 1 or 1 = 1 and 1 = 2",
             "costs 7 if (1 = 1 or 1 = 1) and 1 = 2", "costs 7 if not (1 = 2 and 1 = 1)", "costs 7 if not 1 = 2 and 1 = 2",
-            "costs 9 if 3 > 3", "costs 9 if 3 < 3", "costs 2;costs 1 * 1000 * 1000"};
+            "costs 9 if 3 > 3", "costs 9 if 3 < 3", "costs 2;costs 1 * 1000 * 1000", "costs 7 if not 1 = 1",
+            "costs 7 if 1 = 2 and 1 = 1 and 1 = 1 or 2 = 2", "costs 7 if 1 = 2 or 1 = 2 or 1 = 1",
+            "costs 7 if 1 = 1 and 1 = 2 and 1 = 1", "costs 7 if 1 = 1 or 1 = 2 and 1 = 2 or 1 = 2"};
         int[] due = {99, 99, 0, 0, 1, 6,
             5, 5, 5,
             1, 14, 20, 15, 7,
             20, 47, 49, 7,
             1, 7, 7,
             1, 7, 1,
-            1, 1, 99};
+            1, 1, 99, 1,
+            7, 7,
+            1, 7};
         for (int i = 0; i < laws.length; i++) {
             CHECK.due(laws[i], costOf(laws[i], 4, 0), due[i]);
         }

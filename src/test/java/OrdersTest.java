@@ -129,6 +129,9 @@ public final class OrdersTest {
         CHECK.due("find(13)", x.find(13), 12);
         CHECK.due("what tick told", Feeder.orders(x, "leave 0; tick done - 1 times 8; put 14 as latest"), 10);
         CHECK.due("find(14)", x.find(14), 1);
+        CHECK.due("the lowest key", Feeder.orders(x, "put 15 as value 0 + 1; put 0 as 77; put 16 as value 0"), 3);
+        CHECK.due("find(15)", x.find(15), 0);
+        CHECK.due("find(16)", x.find(16), 77);
     }
 
     private static void times() {

@@ -158,6 +158,9 @@ public final class PaperTest {
             Feeder.law(hand, "bars if key = 3 and time = 0");
             paper.force(0);
             hand.force(0);
+            stand(paper);
+            stand(hand);
+            int endedBefore = hand.count(3) - hand.count(4);
             long s = seed;
             for (int i = 0; i < 60; i++) {
                 int[] got = new int[3];
@@ -168,7 +171,7 @@ public final class PaperTest {
                 }
                 byHand(hand, got);
             }
-            int ended = hand.count(3) - hand.count(4);
+            int ended = hand.count(3) - hand.count(4) - endedBefore;
             ends += ended;
             CHECK.due("days(" + seed + ", 60)", paper.days(seed, 60), ended);
             for (int c = 0; c < 24; c++) {
@@ -176,6 +179,18 @@ public final class PaperTest {
             }
         }
         CHECK.so("graces ended in them", ends > 10);
+    }
+
+    private static void stand(GraceTree x) {
+        x.put(2, 2);
+        x.put(4, 4);
+        x.drop(2);
+        x.begin();
+        x.hurry();
+        x.drop(4);
+        x.put(5, 5);
+        x.enter(1);
+        x.begin();
     }
 
     private static void byHand(GraceTree hand, int[] got) {

@@ -8,6 +8,8 @@ public final class UndoTest {
         whatEndsIt();
         whatStays();
         aWholeGrace();
+        cellsAndReaders();
+        orderByOrder();
         CHECK.report();
     }
 
@@ -124,5 +126,53 @@ public final class UndoTest {
         CHECK.due("undo() of the begin", x.undo(), 7);
         CHECK.due("of(5, 3)", x.of(5, 3), 0);
         CHECK.due("count(1)", x.count(1), 1);
+    }
+
+    private static void cellsAndReaders() {
+        GraceTree x = new GraceTree();
+        x.put(1, 10);
+        x.put(3, 30);
+        x.enter(6);
+        x.step(6);
+        CHECK.due("of(6, 1)", x.of(6, 1), 1);
+        CHECK.due("undo() of the step", x.undo(), 3);
+        CHECK.due("of(6, 1)", x.of(6, 1), 0);
+        CHECK.due("undo() of the enter", x.undo(), 2);
+        CHECK.due("of(6, 0)", x.of(6, 0), 0);
+        x.drop(1);
+        CHECK.due("undo() of the drop", x.undo(), 1);
+        CHECK.due("list(0)", x.list(0), 0);
+        CHECK.due("cell(0, 0)", x.cell(0, 0), 1);
+        CHECK.due("count(1)", x.count(1), 0);
+        x.put(2, 20);
+        CHECK.due("undo() of the put", x.undo(), 0);
+        CHECK.due("what led to it", x.cell(0, 3), 1);
+        CHECK.due("count(0)", x.count(0), 2);
+        x.enter(6);
+        x.park(6);
+        CHECK.due("undo() of the park", x.undo(), 4);
+        CHECK.due("of(6, 2)", x.of(6, 2), 0);
+        x.leave(6);
+        CHECK.due("undo() of the leave", x.undo(), 5);
+        CHECK.due("of(6, 1)", x.of(6, 1), 0);
+        x.drop(3);
+        x.begin();
+        x.leave(6);
+        x.tick(6);
+        CHECK.due("undo() of the tick", x.undo(), 6);
+        CHECK.due("node(7)", x.node(7), 3);
+        CHECK.due("count(5)", x.count(5), 0);
+    }
+
+    private static void orderByOrder() {
+        GraceTree x = new GraceTree();
+        Feeder.orders(x, "put 1 as 1; put 2 as 2; enter 0; step 0");
+        x.undo();
+        CHECK.due("of(0, 1)", x.of(0, 1), 0);
+        x.undo();
+        CHECK.due("of(0, 0)", x.of(0, 0), 0);
+        x.undo();
+        CHECK.due("find(2)", x.find(2), -1);
+        CHECK.due("find(1)", x.find(1), 1);
     }
 }
