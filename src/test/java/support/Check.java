@@ -20,8 +20,21 @@ final class Check {
         due(what, holds ? 1 : 0, 1);
     }
 
+    /** Two tellings of all that stands. */
+    void same(String what, String got, String want) {
+        calls++;
+        if (!got.equals(want)) {
+            wrong++;
+            System.out.println(name + ": " + what + ":\n  is  " + got + "\n  due " + want);
+        }
+    }
+
     boolean failed() {
         return wrong > 0;
+    }
+
+    int lookedAt() {
+        return calls;
     }
 
     void report() {
