@@ -505,6 +505,7 @@ public final class BoundsActsTest {
         c.due("it runs", x.count(4), 1);
         c.due("the other one", x.leave(7), 2);
         c.due("it ended", x.count(4), 0);
+        c.due("each report once", x.count(5), 14);
     }
 
     static void promise23HeldButNotReported(Check c) {

@@ -287,11 +287,13 @@ public final class BoundsCluesTest {
     }
 
     static void promise36OneIsLeft(Check c) {
-        GraceTree x = new GraceTree();
-        x.enter(7);
-        x.seen(0, 1);
-        c.due("ask(0)", x.ask(0), 0);
-        c.due("ask(1)", x.ask(1), 1);
+        for (int p = 0; p < 8; p++) {
+            GraceTree x = new GraceTree();
+            x.enter(p);
+            x.seen(0, 1);
+            c.due("ask(0), reader " + p, x.ask(0), 0);
+            c.due("ask(1), reader " + p, x.ask(1), 1);
+        }
     }
 
     static void promise36AllDiffer(Check c) {

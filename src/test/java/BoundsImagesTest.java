@@ -113,16 +113,42 @@ public final class BoundsImagesTest {
         x.leave(7);
         x.hurry();
         x.forget();
+        x.seen(2, 50);
         x.force(-1);
         Feeder.law(x, "costs 4");
         x.terms(1, 0);
         x.terms(2, 0);
         x.put(9, 9);
+        x.drop(9);
+        x.begin();
+        x.put(8, 8);
+        x.put(9, 9);
+        x.drop(9);
         x.enter(0);
         c.due("back(0)", x.back(0), 0);
         c.same("behind back(0)", Refusal.tell(x), before);
         c.due("current", x.old(1, 0), 0);
         c.due("waiting", x.old(0, 0), 1);
+        c.due("what was seen", x.canBe(), 128);
+    }
+
+    static void promise42SixSeen(Check c) {
+        GraceTree x = Stands.keys(4);
+        x.enter(0);
+        x.enter(1);
+        x.park(1);
+        for (int i = 0; i < 5; i++) {
+            x.seen(0, 1);
+        }
+        x.seen(1, 1);
+        x.image(0);
+        x.forget();
+        for (int i = 0; i < 6; i++) {
+            x.seen(2, 100);
+        }
+        x.back(0);
+        c.due("count(6)", x.count(6), 6);
+        c.due("canBe()", x.canBe(), 2);
     }
 
     static void promise42ToAnEmptyObject(Check c) {

@@ -113,6 +113,34 @@ public final class BoundsLawTest {
         stands(c, "costs1if(key=1)or[2]<3;bars");
     }
 
+    /** 10: "The TAPE has its first n bytes alone": what lay behind them is no part of a TOKEN. */
+    static void promise13TheTextEndsWhereTheTapeDoes(Check c) {
+        GraceTree x = Stands.grace();
+        Feeder.feed(x, "barsbars");
+        x.end(4);
+        c.due("a word that is cut", x.law(), 0);
+        Feeder.feed(x, "costs 1234");
+        x.end(8);
+        c.due("a number that is cut", x.law(), 1);
+        c.due("compare(1, 1, 0)", x.compare(1, 1, 0), 12);
+        Feeder.feed(x, "costs 1+");
+        x.end(7);
+        c.due("a sum that is cut", x.law(), 2);
+    }
+
+    static void promise13ALawBehindALongerText(Check c) {
+        GraceTree x = new GraceTree();
+        x.image(0);
+        for (int i = 0; i < 40; i++) {
+            c.due("law()", Feeder.law(x, "costs " + Stands.many("1", "+", 40) + ";bars"), 0);
+            x.back(0);
+        }
+        c.due("law()", Feeder.law(x, "costs 7 if 2=2"), 0);
+        c.due("compare(0, 1, 0)", x.compare(0, 1, 0), 7);
+        x.force(0);
+        c.due("nothing is barred", x.put(1, 1), 0);
+    }
+
     static void promise13BlanksMayStandAnywhereBetween(Check c) {
         stands(c, "   costs   1   +   2   if   key   =   1   ;   bars   ");
     }
@@ -133,6 +161,8 @@ public final class BoundsLawTest {
         faultAt(c, "costs Key", 6);
         faultAt(c, "bars`", 4);
         faultAt(c, "bars{", 4);
+        faultAt(c, "barsz", 0);
+        faultAt(c, "barsa", 0);
         faultAt(c, "costs 1 if zz=1", 11);
         faultAt(c, "aa", 0);
     }
@@ -193,6 +223,20 @@ public final class BoundsLawTest {
         faultAt(c, "costs 1=1", 7);
     }
 
+    static void promise13WordsMustMatchWholly(Check c) {
+        faultAt(c, "zars", 0);
+        faultAt(c, "bara", 0);
+        faultAt(c, "bar", 0);
+        faultAt(c, "zosts 1", 0);
+        faultAt(c, "costz 1", 0);
+        faultAt(c, "cost 1", 0);
+        faultAt(c, "bars zf 1=1", 5);
+        faultAt(c, "bars i 1=1", 5);
+        faultAt(c, "bars if zot 1=1", 8);
+        faultAt(c, "bars if 1=1 zr 1=1", 12);
+        faultAt(c, "bars if 1=1 znd 1=1", 12);
+    }
+
     static void promise13BarsTakesNoSum(Check c) {
         stands(c, "bars");
         faultAt(c, "bars 1", 5);
@@ -220,6 +264,7 @@ public final class BoundsLawTest {
             stands(c, "costs " + word);
             faultAt(c, "costs " + word + "s", 6);
             faultAt(c, "costs " + word.substring(1), 6);
+            faultAt(c, "costs z" + word.substring(1), 6);
         }
     }
 
@@ -313,11 +358,17 @@ public final class BoundsLawTest {
     }
 
     static void promise13BracketsMustMatch(Check c) {
+        faultAt(c, "costs [", 7);
         faultAt(c, "costs [1", 8);
+        faultAt(c, "costs [1+", 9);
         faultAt(c, "costs [1)", 8);
         faultAt(c, "costs 1]", 7);
         faultAt(c, "costs []", 7);
         faultAt(c, "costs (1)", 6);
+        faultAt(c, "bars if (", 9);
+        faultAt(c, "bars if (1", 10);
+        faultAt(c, "bars if (1=", 11);
+        faultAt(c, "bars if (1=1 or", 15);
         faultAt(c, "bars if (1=1", 12);
         faultAt(c, "bars if (1=1]", 12);
         faultAt(c, "bars if 1=1)", 11);
@@ -514,6 +565,12 @@ public final class BoundsLawTest {
         isSo(c, "not (1=2 and 1=2)");
         isSo(c, "not not 1=1");
         isNotSo(c, "not not not 1=1");
+        isNotSo(c, "not 5=5");
+        isSo(c, "not 5=4");
+        isNotSo(c, "not 2<3");
+        isSo(c, "not 3<2");
+        isNotSo(c, "not 3>2");
+        isSo(c, "not 2>3");
         isSo(c, Stands.many("not", " ", 90) + " 1=1");
         isNotSo(c, Stands.many("not", " ", 91) + " 1=1");
         faultAt(c, "bars if not", 11);

@@ -123,6 +123,36 @@ public final class BoundsOrdersTest {
         }
     }
 
+    /** Nothing of a TEXT is left to the next one: no PARTS, no SUMS, no CLAUSES. */
+    static void promise14ATextBehindALongerOne(Check c) {
+        GraceTree x = Stands.keys(4);
+        for (int i = 0; i < 40; i++) {
+            c.due("orders()", Feeder.orders(x, "tick " + Stands.many("1", "*", 40) + ";tick 2"), 2);
+        }
+        c.due("a put", Feeder.orders(x, "put 5 as 50 times 2 if 1=1"), 2);
+        c.due("a drop behind a put", Feeder.orders(x, "drop 5"), 1);
+        c.due("a begin behind a drop", Feeder.orders(x, "begin"), 1);
+    }
+
+    static void promise14EachWordHasItsPlaces(Check c) {
+        faultAt(c, "begin if as 1=1", 9);
+        faultAt(c, "put 1 not 2", 6);
+        faultAt(c, "put 1 times 2", 6);
+        faultAt(c, "tick 1 as 2", 7);
+        faultAt(c, "begin and 1=1", 6);
+        faultAt(c, "tick put", 5);
+        faultAt(c, "tick if 1=1", 5);
+        faultAt(c, "tick times 2", 5);
+    }
+
+    static void promise14WordsMustMatchWholly(Check c) {
+        for (String word : new String[] {"put", "drop", "enter", "step", "park", "leave", "tick", "begin"}) {
+            faultAt(c, "z" + word.substring(1) + " 1", 0);
+            faultAt(c, word.substring(0, word.length() - 1) + "z 1", 0);
+            faultAt(c, word.substring(0, word.length() - 1), 0);
+        }
+    }
+
     static void promise14WordsOfLawsAreNone(Check c) {
         faultAt(c, "bars", 0);
         faultAt(c, "costs 1", 0);
@@ -300,7 +330,13 @@ public final class BoundsOrdersTest {
     static void promise14ValueOfAKeyThatIsNotThere(Check c) {
         GraceTree x = Stands.waiting();
         tells(c, x, "value 1 + 1", 0);
-        tells(c, x, "value 50 + 1", 0);
+        tells(c, x, "value 0 + 1", 0);
+        tells(c, x, "value 99 + 1", 0);
+    }
+
+    static void promise14ValuesOfAFullList(Check c) {
+        GraceTree x = Stands.full();
+        c.due("orders()", Feeder.orders(x, "tick 0 if value 0=0; tick 0 if value 23=23; tick 0 if value 24=0-1"), 3);
     }
 
     static void promise14TimeAtItsEnds(Check c) {

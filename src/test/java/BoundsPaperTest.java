@@ -416,6 +416,32 @@ public final class BoundsPaperTest {
         c.due("status()", x.status(), 0);
     }
 
+    /** Neither one day less nor one more: the last of them is done, the next one is not. */
+    static void promise39JustSoManyDays(Check c) {
+        boolean lastShows = false;
+        boolean nextShows = false;
+        for (int seed = 0; seed < 40; seed++) {
+            for (int n : new int[] {1, 2, 60}) {
+                GraceTree paper = new GraceTree();
+                GraceTree hand = new GraceTree();
+                Days.byHand(hand, seed, n);
+                c.due("days(" + seed + ", " + n + ")", paper.days(seed, n), hand.count(3) - hand.count(4));
+                c.same("drawn behind days(" + seed + ", " + n + ")", Days.drawn(paper), Days.kinds(hand));
+                if (n == 60) {
+                    lastShows |= !kindsBehind(seed, 59).equals(Days.kinds(hand));
+                    nextShows |= !kindsBehind(seed, 61).equals(Days.kinds(hand));
+                }
+            }
+        }
+        c.so("some seed shows the last day, some the next one", lastShows && nextShows);
+    }
+
+    private static String kindsBehind(int seed, int n) {
+        GraceTree x = new GraceTree();
+        Days.byHand(x, seed, n);
+        return Days.kinds(x);
+    }
+
     static void promise39NoDay(Check c) {
         Refusal.due(c, "days(5, 0)", GraceTree::new, x -> x.days(5, 0), -1);
         Refusal.due(c, "days(5, -1)", GraceTree::new, x -> x.days(5, -1), -1);

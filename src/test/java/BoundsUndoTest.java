@@ -94,6 +94,24 @@ public final class BoundsUndoTest {
         c.due("waiting", x.old(0, 0), 0);
     }
 
+    /** WAITING and CURRENT ones come back in the order in which they became OLD. */
+    static void promise27OldOnesInTheirOrder(Check c) {
+        GraceTree x = Stands.keys(4, 6, 8);
+        x.drop(8);
+        x.drop(4);
+        x.begin();
+        x.drop(6);
+        x.hurry();
+        c.due("undo() of the hurry", x.undo(), 8);
+        c.due("current", x.old(1, 0), 2);
+        c.due("current", x.old(1, 1), 0);
+        c.due("waiting", x.old(0, 0), 1);
+        c.due("undo() of the drop", x.undo(), 1);
+        c.due("undo() of the begin", x.undo(), 7);
+        c.due("waiting", x.old(0, 0), 2);
+        c.due("waiting", x.old(0, 1), 0);
+    }
+
     static void promise27AHurry(Check c) {
         takenBack(c, Stands.grace(), "hurry", GraceTree::hurry, 8);
     }

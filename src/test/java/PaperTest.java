@@ -161,22 +161,11 @@ public final class PaperTest {
             stand(paper);
             stand(hand);
             int endedBefore = hand.count(3) - hand.count(4);
-            long s = seed;
-            for (int i = 0; i < 60; i++) {
-                int[] got = new int[3];
-                int[] of = {8, 6, 9};
-                for (int j = 0; j < 3; j++) {
-                    s = (s * 1103 + 12345) % 1_000_003;
-                    got[j] = (int) (s % of[j]);
-                }
-                byHand(hand, got);
-            }
+            Days.byHand(hand, seed, 60);
             int ended = hand.count(3) - hand.count(4) - endedBefore;
             ends += ended;
             CHECK.due("days(" + seed + ", 60)", paper.days(seed, 60), ended);
-            for (int c = 0; c < 24; c++) {
-                CHECK.due("drawn(" + c + ")", paper.drawn(c), hand.cell(c, 0));
-            }
+            CHECK.same("drawn()", Days.drawn(paper), Days.kinds(hand));
         }
         CHECK.so("graces ended in them", ends > 10);
     }
@@ -191,19 +180,5 @@ public final class PaperTest {
         x.put(5, 5);
         x.enter(1);
         x.begin();
-    }
-
-    private static void byHand(GraceTree hand, int[] got) {
-        switch (got[2]) {
-            case 0 -> hand.put(got[1], got[0]);
-            case 1 -> hand.drop(got[1]);
-            case 2 -> hand.enter(got[0]);
-            case 3 -> hand.step(got[0]);
-            case 4 -> hand.park(got[0]);
-            case 5 -> hand.leave(got[0]);
-            case 6 -> hand.tick(got[0]);
-            case 7 -> hand.begin();
-            default -> hand.hurry();
-        }
     }
 }
