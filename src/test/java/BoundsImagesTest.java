@@ -114,6 +114,7 @@ public final class BoundsImagesTest {
         x.hurry();
         x.forget();
         x.seen(2, 50);
+        x.seen(2, 60);
         x.force(-1);
         Feeder.law(x, "costs 4");
         x.terms(1, 0);
@@ -158,6 +159,7 @@ public final class BoundsImagesTest {
         x.drop(4);
         x.begin();
         x.enter(0);
+        x.seen(0, 1);
         x.back(1);
         c.same("behind back(1)", Refusal.tell(x), Refusal.tell(new GraceTree()));
     }
