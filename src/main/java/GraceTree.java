@@ -723,7 +723,9 @@ public final class GraceTree {
         }
 
         void waitingBecomeCurrent() {
-            System.arraycopy(waiting, 0, current, 0, CELLS);
+            for (int i = 0; i < waitingCount && i < CELLS; i++) {
+                current[i] = waiting[i];
+            }
             currentCount = waitingCount;
             waitingCount = 0;
         }
