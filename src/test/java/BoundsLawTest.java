@@ -223,6 +223,17 @@ public final class BoundsLawTest {
         faultAt(c, "costs 1=1", 7);
     }
 
+    static void promise13EachWordHasItsPlaces(Check c) {
+        for (String word : new String[] {"bars", "costs", "if", "or", "and", "not"}) {
+            faultAt(c, "costs " + word + " 1", 6);
+            faultAt(c, "costs 1 + " + word + " 1", 10);
+        }
+        faultAt(c, "if 1=1", 0);
+        faultAt(c, "not bars", 0);
+        faultAt(c, "costs 1 or 2", 8);
+        faultAt(c, "bars and 1=1", 5);
+    }
+
     static void promise13WordsMustMatchWholly(Check c) {
         faultAt(c, "zars", 0);
         faultAt(c, "bara", 0);
@@ -494,6 +505,8 @@ public final class BoundsLawTest {
         isSo(c, "[0-7]/2=0-3");
         isSo(c, "7/[0-2]=0-3");
         isSo(c, "[0-7]/[0-2]=3");
+        isSo(c, "7/1=7");
+        isSo(c, "0/7=0");
         isSo(c, "1/2=0");
         isSo(c, "[0-1]/2=0");
     }
@@ -503,6 +516,7 @@ public final class BoundsLawTest {
         isSo(c, "[0-7]%2=0-1");
         isSo(c, "7%[0-2]=1");
         isSo(c, "[0-7]%[0-2]=0-1");
+        isSo(c, "7%1=0");
         isSo(c, "6%2=0");
         isSo(c, "0%5=0");
     }

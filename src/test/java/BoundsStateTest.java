@@ -174,6 +174,16 @@ public final class BoundsStateTest {
         c.due("held then", x.of(3, 3), 1);
     }
 
+    static void promise02NobodyIsHeldBehindAGrace(Check c) {
+        GraceTree x = Stands.graceButSeven();
+        x.enter(0);
+        x.park(0);
+        x.tick(7);
+        for (int p = 0; p < 8; p++) {
+            c.due("of(" + p + ", 3)", x.of(p, 3), 0);
+        }
+    }
+
     static void promise02NothingIsLeftOfOneThatLeft(Check c) {
         GraceTree x = Stands.grace();
         x.enter(3);
