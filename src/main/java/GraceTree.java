@@ -967,16 +967,14 @@ public final class GraceTree {
 
         /** A REPORT to a NODE, and those to NODES above that come of it. */
         private int report(int toNode, int ofChild, Rules rules) {
-            int node = toNode;
             int child = ofChild;
-            while (isNode(node)) {
+            for (int node = toNode; node >= TOP && node < NODES_END; node /= 2) {
                 cost += rules.costOf(rules.lawAt(rules.inForce), node, child, this);
                 missing[node] &= ~(1 << child);
                 if (!isQuiet(node)) {
                     return 0;
                 }
                 child = node & 1;
-                node /= 2;
             }
             return endGrace();
         }

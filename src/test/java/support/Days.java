@@ -17,6 +17,26 @@ final class Days {
         }
     }
 
+    /** The lowest SEED whose days are these, each told by its first and its last DRAW; -1: any. */
+    static int seedOf(int[]... days) {
+        for (int seed = 0; seed <= 1_000_000; seed++) {
+            long s = seed;
+            boolean fits = true;
+            for (int i = 0; i < days.length && fits; i++) {
+                long[] got = new long[DRAWS.length];
+                for (int j = 0; j < DRAWS.length; j++) {
+                    s = (s * 1103 + 12345) % 1_000_003;
+                    got[j] = s % DRAWS[j];
+                }
+                fits = (days[i][0] < 0 || got[0] == days[i][0]) && got[2] == days[i][1];
+            }
+            if (fits) {
+                return seed;
+            }
+        }
+        throw new IllegalStateException("no seed has such days");
+    }
+
     /** Of each CELL whether FREE, LIVE, OLD, as it stands. */
     static String kinds(GraceTree x) {
         StringBuilder b = new StringBuilder();
