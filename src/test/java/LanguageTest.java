@@ -93,6 +93,11 @@ public final class LanguageTest {
         while (imports.find()) {
             CHECK.so("import " + imports.group(1), imports.group(1).equals("java.util.Arrays"));
         }
+        // rule 9: what ends a loop stands in its own line
+        Matcher loops = Pattern.compile("\\b(while|do|for) ?(\\(.*|\\{)").matcher(code);
+        while (loops.find()) {
+            CHECK.so("a bound in: " + loops.group(), loops.group(2).matches("\\(.*( < | > | >= ).*"));
+        }
         int start = -1;
         String[] lines = file.split("\n");
         for (int i = 0; i < lines.length; i++) {

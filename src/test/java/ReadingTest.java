@@ -132,6 +132,17 @@ public final class ReadingTest {
 
     // ---- II: LAWS, ORDERS
 
+    /** "TEXTS are on a TAPE of at most 400 bytes": its last byte alone is a TOKEN. */
+    static void promise15TheLastOf400Bytes(Check c) {
+        for (String last : new String[] {"x", "1", "(", ";"}) {
+            GraceTree x = new GraceTree();
+            c.due("law()", Feeder.law(x, Stands.many(" ", "", 399) + last), -6);
+            c.due("fault() at <" + last + ">", x.fault(), 399);
+            c.due("orders()", Feeder.orders(x, Stands.many(" ", "", 399) + last), -6);
+            c.due("fault() at <" + last + ">", x.fault(), 399);
+        }
+    }
+
     /** "(NONE at first: no CLAUSE)": a REPORT COSTS 1, no KEY is BARRED, whatever LAWS there are. */
     static void promise17WithNoneThereIsNoClause(Check c) {
         GraceTree x = Stands.grace();
